@@ -103,7 +103,7 @@ public final class CanalCompany {
             return ACTS_OUTSIDE;
         }
         if (what == 0) {
-            return line.takes(t, hour);
+            return line.wantedBy(t, hour);
         }
         return what == 1 ? t.cost() : t.took;
     }
@@ -884,7 +884,7 @@ public final class CanalCompany {
             return boatCount++;
         }
 
-        int takes(Taker t, int hour) {
+        int wantedBy(Taker t, int hour) {
             return t.takes(hour, pounds[t.place]);
         }
 
@@ -912,7 +912,7 @@ public final class CanalCompany {
 
         private void serve(Taker t) {
             Pound p = pounds[t.place];
-            int taken = Math.min(takes(t, hoursGone), p.water);
+            int taken = Math.min(wantedBy(t, hoursGone), p.water);
             p.water -= taken;
             t.took += taken;
             lost += p.spill();

@@ -152,6 +152,9 @@ public final class LineTest {
         due("5 full", x.taker(0, 0, 1, 0), FULL);
         due("5 outside before full", x.taker(0, 0, 0, 0), OUTSIDE);
         due("45 takers", x.count(1), 12);
+        due("6 the twelfth", x.as(11, 0), 11);
+        due("6 no thirteenth", x.as(12, 0), UNKNOWN);
+        due("7 no thirteenth", x.acts(12, 0, 0), -1001);
     }
 
     private static void sorts() {
@@ -199,7 +202,9 @@ public final class LineTest {
             due("7 cost " + i, x.acts(i, 1, 0), costs[i]);
             due("7 took " + i, x.acts(i, 2, 0), 0);
         }
-        due("7 unknown first", x.acts(5, 9, -1), -1001);
+        x.taker(4, 0, 200, 0);
+        due("7 cost of the greatest pump", x.acts(5, 1, 0), 21);
+        due("7 unknown first", x.acts(6, 9, -1), -1001);
         due("7 unknown", x.acts(-1, 0, 0), -1001);
         due("7 what", x.acts(0, 3, 0), -1002);
         due("7 what", x.acts(0, -1, 0), -1002);
@@ -255,6 +260,8 @@ public final class LineTest {
         }
         due("8 full", x.boat(0, 7, 40, 9, 3, 3), FULL);
         due("8 outside before full", x.boat(0, 7, 41, 9, 3, 3), OUTSIDE);
+        due("11 the twelfth", x.at(11, 0), 0);
+        due("11 no thirteenth", x.at(12, 0), UNKNOWN);
     }
 
     private static void rainAndWeir() {
@@ -379,6 +386,18 @@ public final class LineTest {
         y.pound(1, 0, 50);
         due("9 half is enough", y.hour(0), 1);
         due("9 all of it", y.now(1, 0), 0);
+        // And as it is, where the lock is empty.
+        CanalCompany z = new CanalCompany();
+        z.lock(0, 1, 1);
+        z.boat(1, 0, 0, 1, 0, 0);
+        z.boat(0, 1, 0, 2, 0, 0);
+        z.pound(1, 2, 0);
+        z.hours(2, 0);
+        due("12 kept", z.lockIs(0, 1), 50);
+        z.pound(1, 0, 49);
+        due("9 less than what is not kept", z.hour(0), 0);
+        z.pound(1, 0, 50);
+        due("9 what is not kept is enough", z.hour(0), 1);
         // The weir of the lower pound.
         due("14 lost", y.sum(2), 50);
     }

@@ -63,6 +63,7 @@ public final class MoneyTest {
         x.bill(0, 0);
         due("33", x.pay(1, 100), 800);
         due("33 no less than 0", x.pay(1, 999999), 0);
+        due("33 the last carrier", x.pay(3, 0), 0);
         due("33 carrier first", x.pay(4, -1), UNKNOWN);
         due("33 carrier", x.pay(-1, 0), UNKNOWN);
         due("33 v", x.pay(0, -1), OUTSIDE);
@@ -104,6 +105,11 @@ public final class MoneyTest {
         due("35 the last rank", x.failed(3, 137), 17);
         due("35 all", x.failed(3, 138), 18);
         due("35 more", x.failed(3, 99999), 18);
+        CanalCompany y = new CanalCompany();
+        y.debt(0, 0, 1);
+        y.debt(1, 0, 5);
+        due("35 a debt of 1 is some", y.failed(0, 3), 1);
+        due("35 a debt of 1 is some", y.failed(1, 3), 2);
         due("35 carrier first", x.failed(4, -1), UNKNOWN);
         due("35 carrier", x.failed(-1, 0), UNKNOWN);
         due("35 there", x.failed(0, -1), OUTSIDE);
@@ -114,6 +120,8 @@ public final class MoneyTest {
         CanalCompany x = new CanalCompany();
         due("36", x.shares(5, 999), 0);
         due("36", x.shares(5, 10), 999);
+        due("36 none", x.shares(5, 0), 10);
+        due("36 again", x.shares(5, 10), 0);
         due("36 holder first", x.shares(6, -1), UNKNOWN);
         due("36 holder", x.shares(-1, 0), UNKNOWN);
         due("36 v", x.shares(0, 1000), OUTSIDE);
@@ -143,6 +151,8 @@ public final class MoneyTest {
         due("37 the same day", x.pass(2, 0, 10, 5), 2);
         due("37 above 999", x.pass(2, 1, 20, 50), 3);
         due("38 as told", x.had(0, 4), 30);
+        due("38 on day 0", x.had(0, 0), 30);
+        due("38 the last holder", x.had(5, 99), 0);
         due("38 by that day", x.had(0, 5), 10);
         due("38", x.had(2, 49), 20);
         due("38", x.had(2, 50), 0);
@@ -242,6 +252,9 @@ public final class MoneyTest {
         x.rate(25);
         due("42 pence", x.bestPence(0), 2);
         due("42 bring", x.bestPence(1), 400);
+        x.rate(10);
+        due("42 one penny", x.bestPence(0), 1);
+        due("42 one penny", x.bestPence(1), 200);
         x.rate(0);
         due("42 of like ones fewest", x.bestPence(0), 0);
         due("42 nothing", x.bestPence(1), 0);
@@ -306,5 +319,10 @@ public final class MoneyTest {
         y.work(3, 5, NONE);
         due("44 of like ones least bits", y.plan(5, 0), 2);
         due("44 two are cheaper than one", y.plan(9, 0), 6);
+        CanalCompany z = new CanalCompany();
+        z.work(2, 5, NONE);
+        due("44 the first alone", z.plan(2, 0), 1);
+        z.work(2, 6, NONE);
+        due("44 a little more", z.plan(2, 0), 2);
     }
 }

@@ -154,6 +154,8 @@ public final class TextsTest {
         write(x, "x");
         due("18 state before full", x.text(), STATE);
         due("45 texts", x.count(4), 16);
+        due("19 the sixteenth", x.force(15, 0, 0), 1);
+        due("19 no seventeenth", x.force(16, 0, 0), UNKNOWN);
     }
 
     private static void force() {
@@ -217,6 +219,12 @@ public final class TextsTest {
         holds("l=1|m=1|g=1", true);
         holds("l=20&m=30&g=2", false);
         holds("((l=20))&((m=30|l=1))", true);
+        holds("l=20|(m=1)", true);
+        holds("l=1|(m=1)", false);
+        holds("l=20|((m=1)&(g=2))", true);
+        holds("l=1&(m=30)", false);
+        holds("!(l=1)&(m=30|g=2)&!(c=3)", true);
+        holds("l=20&!((m=30))|c=3", false);
         holds("!((((((((((((((((((((((l=20))))))))))))))))))))))", false);
     }
 

@@ -26,7 +26,7 @@ public final class ToldTest {
 
     private static void counts() {
         CanalCompany x = filled();
-        int[] want = {3, 2, 2, 1, 1, 2, 1, 1, 1, 2, 3, 1};
+        int[] want = {3, 2, 2, 1, 1, 2, 1, 2, 1, 2, 3, 1};
         for (int what = 0; what < want.length; what++) {
             due("45 " + what, x.count(what), want[what]);
         }
@@ -56,6 +56,7 @@ public final class ToldTest {
         x.turn(0);
         x.bank(3, 77);
         x.read(5, 1234, 56);
+        x.read(0, 7, 8);
         x.debt(2, 1, 44);
         x.shares(4, 10);
         x.pass(4, 5, 3, 99);
@@ -100,14 +101,14 @@ public final class ToldTest {
         add(3, 98, 59);
         add(1, 2, 9, 0, 1, 8);
         add(3, 77);
-        add(1234, 56);
+        add(7, 8, 1234, 56);
         add(0, 0, 0, 0);
         add(0, 0, 0, 0, 0, 0, 0, 44, 0, 0, 0, 0);
         add(0, 0, 0, 0, 7, 3);
         add(12);
         add(5, 6, -1, 7, 8, 0);
         add(3, 2, 1);
-        add(3, 2, 2, 1, 1, 2, 1, 1, 1, 2, 3, 1);
+        add(3, 2, 2, 1, 1, 2, 1, 2, 1, 2, 3, 1);
         due("46 all", x.digest(), h);
         due("46 the same again", x.digest(), h);
     }

@@ -117,6 +117,12 @@ public final class TurnsTest {
         x.comer(false, 4, 4);
         best(x, NONE, NONE);
         due("24", x.clear(), 2);
+        CanalCompany z = new CanalCompany();
+        z.comer(true, 0, 0);
+        due("25 one", z.turn(0), 1);
+        z.clear();
+        due("25 none any more", z.turn(0), 0);
+        due("25 none any more", z.turn(10), NONE);
         CanalCompany y = new CanalCompany();
         y.comer(true, 5, 4);
         best(y, NONE, NONE);
@@ -146,6 +152,7 @@ public final class TurnsTest {
         x.comer(true, 0, 9);
         due("26 one", x.judge(0), 1);
         due("26 another", x.judge(1), OUTSIDE);
+        due("26 too long", x.judge(8), OUTSIDE);
         x.comer(false, 0, 9);
         x.comer(true, 2, 3);
         due("26", x.judge(0_012), 2);
@@ -154,6 +161,7 @@ public final class TurnsTest {
         due("26 the last is late", x.judge(0_210), 2);
         due("26 below nothing", x.judge(-1), OUTSIDE);
         due("26 twice", x.judge(0_011), OUTSIDE);
+        due("26 twice", x.judge(0_112), OUTSIDE);
         due("26 no such", x.judge(0_013), OUTSIDE);
         due("26 too long", x.judge(0_1012), OUTSIDE);
         due("26 too long", x.judge(Integer.MAX_VALUE), OUTSIDE);

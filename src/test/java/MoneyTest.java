@@ -206,6 +206,10 @@ public final class MoneyTest {
             all += y.dividend(i, 999998, 50);
         }
         due("39 to the penny", all, 999998);
+        CanalCompany z = new CanalCompany();
+        z.shares(3, 1);
+        due("39 one share in all", z.dividend(3, 77, 0), 77);
+        due("39 one share in all", z.dividend(0, 77, 0), 0);
     }
 
     private static void railway() {

@@ -306,7 +306,8 @@ public final class RefusalsTest {
             row("6 as", () -> withTakers(many), UNKNOWN, OUTSIDE).part(UNKNOWN, 0, many - 1).part(OUTSIDE, 0, 4)
                     .closed(UNKNOWN, CanalCompany::new).check();
             row("7 acts", () -> withTakers(many), ACTS_UNKNOWN, ACTS_OUTSIDE).part(ACTS_UNKNOWN, 0, many - 1)
-                    .part(ACTS_OUTSIDE, 0, 2).part(ACTS_OUTSIDE, 0, 599).closed(ACTS_UNKNOWN, CanalCompany::new).check();
+                    .part(ACTS_OUTSIDE, 0, 2).part(ACTS_OUTSIDE, 0, 599)
+                    .closed(ACTS_UNKNOWN, CanalCompany::new).check();
         }
     }
 

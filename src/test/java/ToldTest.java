@@ -1,9 +1,13 @@
+import java.math.BigInteger;
+
 /** Promises 45 and 46: what is told. */
 public final class ToldTest {
     private static final int OUTSIDE = -102;
     private static final Check CHECK = new Check();
 
     private long h = 283;
+    // The same without wrapping, to see that it would be too great for a long.
+    private BigInteger whole = BigInteger.valueOf(283);
 
     public static void main(String[] args) {
         counts();
@@ -11,6 +15,10 @@ public final class ToldTest {
         new ToldTest().digestOfAll();
         refusalsChangeNothing();
         everyChangeShows();
+        countsFromNothingToAll();
+        digestOfEmptyRowsHasNothing();
+        new ToldTest().digestOfTheFullest();
+        askingChangesNothing();
         CHECK.end();
     }
 
@@ -21,6 +29,7 @@ public final class ToldTest {
     private void add(long... numbers) {
         for (long number : numbers) {
             h = 31 * h + number;
+            whole = whole.multiply(BigInteger.valueOf(31)).add(BigInteger.valueOf(number));
         }
     }
 
@@ -81,6 +90,8 @@ public final class ToldTest {
         add(9);
         add(0, 0, 0, 0, 0, 0, 0, 0, 0, 0, 0, 0);
         due("46 new", new CanalCompany().digest(), h);
+        due("46 as longs, wrapping", new CanalCompany().digest(), whole.longValue());
+        CHECK.holds("46 it did not wrap", whole.bitLength() > 64);
     }
 
     private void digestOfAll() {
@@ -164,6 +175,161 @@ public final class ToldTest {
                 default -> x.rate(1);
             }
             CHECK.holds("46 change " + i + " does not show", x.digest() != before);
+        }
+    }
+
+    /** "How many: 0 HOURS gone by, .. 11 how often turn() was done", each from its least to its most. */
+    private static void countsFromNothingToAll() {
+        int[] most = {600, 12, 12, 0, 16, 8, 10, 8, 24, 8, 60, 20};
+        CanalCompany x = new CanalCompany();
+        CanalCompany full = fullest();
+        for (int what = 0; what < 12; what++) {
+            due("45 at first " + what, x.count(what), 0);
+            due("45 at most " + what, full.count(what), most[what]);
+        }
+        CanalCompany there = new CanalCompany();
+        for (int i = 0; i < 12; i++) {
+            there.boat(i % 7, i % 7 + 1, 0, 1, 0, 0);
+        }
+        due("45 none has come", there.count(3), 0);
+        there.hours(2, 0);
+        due("45 some have come", there.count(3), 7);
+        there.hours(1, 0);
+        due("45 all have come", there.count(3), 12);
+    }
+
+    /** As many of each kind as there may be; no BOAT moves, since each POUND is too low. */
+    private static CanalCompany fullest() {
+        CanalCompany x = new CanalCompany();
+        for (int i = 0; i < 8; i++) {
+            x.pound(i, 2, 9999);
+            x.comer(i % 2 == 0, 23 - i, 99 - i);
+            x.read(i, 9999 - i, 99 - i);
+            x.work(999 - i, 999 - 2 * i, i - 1);
+        }
+        for (int i = 0; i < 12; i++) {
+            x.taker(0, 7, 200 - i, 9 - i % 3);
+            x.boat(i % 7, 7, 40 - i, 9, 3 - i % 4, i % 4);
+        }
+        for (int i = 0; i < 10; i++) {
+            x.bank(i % 8, 999 - i);
+        }
+        for (int i = 0; i < 16; i++) {
+            Canals.tell(x, (i % 2 == 0 ? "T:" : "C:") + (9999 - i));
+            x.force(i, i, 99 - i);
+        }
+        Canals.write(x, "~".repeat(60));
+        x.shares(0, 999);
+        for (int i = 0; i < 24; i++) {
+            x.pass(0, 1 + i % 5, 40, 99);
+        }
+        for (int i = 0; i < 12; i++) {
+            x.debt(i % 4, i / 4, 9999 - i);
+        }
+        x.rate(999);
+        for (int i = 0; i < 20; i++) {
+            x.turn(0);
+        }
+        Canals.passHours(x, 600);
+        return x;
+    }
+
+    private void digestOfTheFullest() {
+        CanalCompany x = fullest();
+        add(3);
+        for (int i = 0; i < 8; i++) {
+            add(i == 7 ? 0 : 1000, 1000, 9999);
+        }
+        for (int i = 0; i < 7; i++) {
+            add(100, 0, 0, 0, 0, 0, 0);
+        }
+        // Of RANK 7 are 2, 5, 8 and 11; of RANK 8 the first two get what is left of 1000.
+        int[] took = {0, 199, 198, 0, 27, 195, 0, 0, 192, 0, 0, 189};
+        for (int i = 0; i < 12; i++) {
+            add(0, 7, 200 - i, 9 - i % 3, took[i]);
+        }
+        for (int i = 0; i < 12; i++) {
+            add(i % 7, 9, 0, 591, 5 * (8 - i % 7), 40 - i, 3 - i % 4, i % 4);
+        }
+        add(0, 1000, 0, 7000, 0);
+        for (int i = 0; i < 16; i++) {
+            add(i, 99 - i, 9999 - i);
+        }
+        for (int i = 0; i < 8; i++) {
+            add(i % 2 == 0 ? 1 : 0, 23 - i, 99 - i);
+        }
+        for (int i = 0; i < 10; i++) {
+            add(i % 8, 999 - i);
+        }
+        for (int i = 0; i < 8; i++) {
+            add(9999 - i, 99 - i);
+        }
+        add(0, 0, 0, 0);
+        for (int carrier = 0; carrier < 4; carrier++) {
+            add(9999 - carrier, 9999 - carrier - 4, 9999 - carrier - 8);
+        }
+        add(999 - 24 * 40, 200, 200, 200, 200, 160);
+        add(999);
+        for (int i = 0; i < 8; i++) {
+            add(999 - i, 999 - 2 * i, i - 1);
+        }
+        for (int i = 0; i < 60; i++) {
+            add('~');
+        }
+        add(600, 12, 12, 0, 16, 8, 10, 8, 24, 8, 60, 20);
+        due("46 the fullest", x.digest(), h);
+        due("46 as longs, wrapping", x.digest(), whole.longValue());
+    }
+
+    /** "of each TAKER .. of each POUND READ ..": what is not there has no number. */
+    private static void digestOfEmptyRowsHasNothing() {
+        long untouched = new CanalCompany().digest();
+        CanalCompany x = new CanalCompany();
+        x.comer(true, 5, 9);
+        x.read(3, 5, 1);
+        Canals.write(x, "abc");
+        CHECK.holds("46 they do not show", x.digest() != untouched);
+        x.clear();
+        x.unread();
+        x.blank();
+        due("46 none again", x.digest(), untouched);
+        x.shares(0, 5);
+        x.shares(0, 0);
+        x.debt(0, 0, 5);
+        x.debt(0, 0, 0);
+        x.pound(0, 0, 5);
+        x.pound(0, 0, 1000);
+        x.rate(8);
+        x.rate(9);
+        due("46 as it was", x.digest(), untouched);
+    }
+
+    /** Calls that only ask leave all as it is. */
+    private static void askingChangesNothing() {
+        CanalCompany x = filled();
+        long was = x.digest();
+        for (int i = 0; i < 12; i++) {
+            x.as(i, 3);
+            x.acts(i, i % 3, 7);
+            x.at(i, i % 5);
+            x.lockIs(i, i % 4);
+            x.now(i, i % 3);
+            x.sum(i);
+            x.fault();
+            x.speaks(i % 2, i, 50);
+            x.quarrel(i % 2, i, 50);
+            x.toll(i, 50);
+            x.judge(i);
+            x.dry(i % 2, 1, 2, 3, 4);
+            x.find(i % 2);
+            x.failed(i, 99);
+            x.had(i, 50);
+            x.dividend(i, 50, 50);
+            x.over(i);
+            x.bestPence(i % 2);
+            x.plan(i, i % 3);
+            x.count(i);
+            due("46 asking", x.digest(), was);
         }
     }
 }

@@ -76,4 +76,40 @@ final class Canals {
         x.turn(0);
         return x;
     }
+
+    /** As many of each kind as there may be; no BOAT moves, since each POUND is too low. */
+    static CanalCompany fullest() {
+        CanalCompany x = new CanalCompany();
+        for (int i = 0; i < 8; i++) {
+            x.pound(i, 2, 9999);
+            x.comer(i % 2 == 0, 23 - i, 99 - i);
+            x.read(i, 9999 - i, 99 - i);
+            x.work(999 - i, 999 - 2 * i, i - 1);
+        }
+        for (int i = 0; i < 12; i++) {
+            x.taker(0, 7, 200 - i, 9 - i % 3);
+            x.boat(i % 7, 7, 40 - i, 9, 3 - i % 4, i % 4);
+        }
+        for (int i = 0; i < 10; i++) {
+            x.bank(i % 8, 999 - i);
+        }
+        for (int i = 0; i < 16; i++) {
+            tell(x, (i % 2 == 0 ? "T:" : "C:") + (9999 - i));
+            x.force(i, i, 99 - i);
+        }
+        write(x, "~".repeat(60));
+        x.shares(0, 999);
+        for (int i = 0; i < 24; i++) {
+            x.pass(0, 1 + i % 5, 40, 99);
+        }
+        for (int i = 0; i < 12; i++) {
+            x.debt(i % 4, i / 4, 9999 - i);
+        }
+        x.rate(999);
+        for (int i = 0; i < 20; i++) {
+            x.turn(0);
+        }
+        passHours(x, 600);
+        return x;
+    }
 }

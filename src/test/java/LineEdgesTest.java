@@ -11,6 +11,7 @@ public final class LineEdgesTest {
         hoursOfAMill();
         leakRoundedDown();
         tenthOfAPump();
+        castsThatFail();
         ranksFromLeastToMost();
         likeRanksByNumber();
         numberedToTheLast();
@@ -23,6 +24,7 @@ public final class LineEdgesTest {
         upThroughAFilledOne();
         downThroughAnEmptyOne();
         downThroughAFilledOne();
+        higherTowardsTheSummit();
         leastAndFiveTimesLoad();
         asItIsAhead();
         rainThenTakersThenLocks();
@@ -193,6 +195,19 @@ public final class LineEdgesTest {
             for (int sort = 0; sort < 5; sort++) {
                 x.taker(sort, 7, amount, 9);
                 due("7 COST of SORT " + sort + " of " + amount, x.acts(sort, 1, 599), costs[sort]);
+            }
+        }
+    }
+
+    /** "A TAKER taken as a SORT: its number; NONE: it is none such (the cast fails)." */
+    private static void castsThatFail() {
+        String[] sorts = {"0", "01", "02", "03", "034"};
+        CanalCompany x = new CanalCompany();
+        for (int i = 0; i < 10; i++) {
+            x.taker(i % 5, 0, 1, 0);
+            for (int asked = 0; asked < 5; asked++) {
+                boolean is = sorts[i % 5].contains(String.valueOf(asked));
+                due("6 SORT " + i % 5 + " as " + asked, x.as(i, asked), is ? i : NONE);
             }
         }
     }
@@ -416,6 +431,29 @@ public final class LineEdgesTest {
         for (int lockful : new int[] {10, 11, 200}) {
             goes("9 down through a filled one", false, true, 0, lockful, 0);
             goes("9 down through a filled one with a SIDE", false, true, 1, lockful, 0);
+        }
+    }
+
+    /** "from both ends POUNDS lie higher towards it": into THE SUMMIT is up, out of it is down. */
+    private static void higherTowardsTheSummit() {
+        for (int summit = 1; summit <= 6; summit++) {
+            for (int side = -1; side <= 1; side += 2) {
+                int lock = side < 0 ? summit - 1 : summit;
+                CanalCompany in = roomy();
+                in.summit(summit);
+                in.boat(summit + side, summit, 0, 1, 0, 0);
+                in.hours(2, 0);
+                due("9 into THE SUMMIT: filled", in.lockIs(lock, 0), 1);
+                due("9 a LOCKFUL of THE SUMMIT", in.now(summit, 0), 400);
+                due("9 nothing of the other", in.now(summit + side, 0), 500);
+                CanalCompany out = roomy();
+                out.summit(summit);
+                out.boat(summit, summit + side, 0, 1, 0, 0);
+                out.hours(2, 0);
+                due("9 out of THE SUMMIT: EMPTY", out.lockIs(lock, 0), 0);
+                due("9 a LOCKFUL of THE SUMMIT", out.now(summit, 0), 400);
+                due("9 and into the other", out.now(summit + side, 0), 600);
+            }
         }
     }
 

@@ -540,10 +540,11 @@ public final class MoneyEdgesTest {
         due("44 no WORKS", x.plan(9999, 0), 0);
         due("44 no WORKS", x.plan(9999, 1), 0);
         due("44 no WORKS", x.plan(9999, 2), 0);
-        x.work(1, 1, NONE);
-        x.work(999, 999, NONE);
-        int[][] rows = {{0, 0, 0, 0}, {1, 1, 1, 1}, {998, 1, 1, 1}, {999, 2, 999, 999}, {1000, 3, 1000, 1000},
-            {9999, 3, 1000, 1000}};
+        x.work(1, 7, NONE);
+        x.work(999, 900, NONE);
+        // COIN, then the set, what it gives, its COST.
+        int[][] rows = {{0, 0, 0, 0}, {1, 1, 7, 1}, {998, 1, 7, 1}, {999, 2, 900, 999}, {1000, 3, 907, 1000},
+            {9999, 3, 907, 1000}};
         for (int[] row : rows) {
             for (int what = 0; what < 3; what++) {
                 due("44 of " + row[0], x.plan(row[0], what), row[what + 1]);

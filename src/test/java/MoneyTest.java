@@ -22,22 +22,15 @@ public final class MoneyTest {
         CHECK.due(what, got, want);
     }
 
-    private static void tell(CanalCompany x, String s) {
-        for (int i = 0; i < s.length(); i++) {
-            x.letters(s.charAt(i));
-        }
-        x.text();
-    }
-
     private static void bills() {
         CanalCompany x = new CanalCompany();
         x.boat(0, 1, 10, 1, 0, 2);
         x.boat(0, 1, 10, 1, 0, 2);
         x.boat(0, 1, 10, 1, 0, 3);
-        tell(x, "T:2");
+        Canals.tell(x, "T:2");
         due("32 no credit", x.bill(0, 0), NONE);
-        tell(x, "C:399?c=2");
-        tell(x, "C:400?c=2&d>9");
+        Canals.tell(x, "C:399?c=2");
+        Canals.tell(x, "C:400?c=2&d>9");
         due("32", x.bill(0, 0), 200);
         due("32 already", x.bill(0, 0), STATE);
         due("32 above credit", x.bill(1, 0), NONE);
@@ -58,8 +51,8 @@ public final class MoneyTest {
     private static void payments() {
         CanalCompany x = new CanalCompany();
         x.boat(0, 1, 10, 1, 0, 1);
-        tell(x, "T:9");
-        tell(x, "C:9999");
+        Canals.tell(x, "T:9");
+        Canals.tell(x, "C:9999");
         x.bill(0, 0);
         due("33", x.pay(1, 100), 800);
         due("33 no less than 0", x.pay(1, 999999), 0);

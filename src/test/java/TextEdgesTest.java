@@ -18,6 +18,7 @@ public final class TextEdgesTest {
         moreThanAnyValue();
         oneTermAtLeast();
         allFactors();
+        bracketsBehindATerm();
         turnedRound();
         deepBrackets();
         toldLast();
@@ -272,6 +273,24 @@ public final class TextEdgesTest {
             holds(x, 0, "g=0|" + s, true);
             holds(x, 0, s + "|g=0", true);
         }
+    }
+
+    /** '"(" CONDITION ")"': what held outside is neither lost in a bracket nor seen there. */
+    private static void bracketsBehindATerm() {
+        CanalCompany x = new CanalCompany();
+        x.boat(0, 1, 0, 1, 0, 2);
+        holds(x, 0, "c=2|(c=1)", true);
+        holds(x, 0, "c=2|(c=1)&c=1", true);
+        holds(x, 0, "c=2|c=1&(c=1)", true);
+        holds(x, 0, "c=2|((c=1))&c=1", true);
+        holds(x, 0, "c=2|!(c=1)&c=1", true);
+        holds(x, 0, "c=1|(c=1)", false);
+        holds(x, 0, "c=2|c=1&(c=2|c=1)&c=1", true);
+        holds(x, 0, "(c=2|(c=1)&c=1)&c=1", false);
+        holds(x, 0, "(c=2|(c=1)&c=1)&c=2", true);
+        holds(x, 0, "!(c=2|(c=1)&c=1)", false);
+        holds(x, 0, "!(c=1|(c=2)&c=1)", true);
+        holds(x, 0, "(c=1|c=1)|(c=2)", true);
     }
 
     /** '"!" and a FACTOR': it turns round the one FACTOR behind it and no more. */

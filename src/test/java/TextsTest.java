@@ -20,26 +20,6 @@ public final class TextsTest {
         CHECK.due(what, got, want);
     }
 
-    private static long word(String s) {
-        long w = 0;
-        for (int i = s.length() - 1; i >= 0; i--) {
-            w = w << 8 | s.charAt(i);
-        }
-        return w;
-    }
-
-    private static void write(CanalCompany x, String s) {
-        for (int i = 0; i < s.length(); i += 8) {
-            x.letters(word(s.substring(i, Math.min(i + 8, s.length()))));
-        }
-    }
-
-    private static int tell(CanalCompany x, String s) {
-        x.blank();
-        write(x, s);
-        return x.text();
-    }
-
     private static void letters() {
         CanalCompany x = new CanalCompany();
         due("15 none", x.letters(0), 0);
@@ -51,14 +31,14 @@ public final class TextsTest {
         due("15 behind a 0", x.letters(0x0100), OUTSIDE);
         due("15 behind a 0", x.letters(0x0100000000000041L), OUTSIDE);
         due("15 nothing changed", x.letters(0), 2);
-        due("15 eight", x.letters(word("T:12?l<3")), 10);
+        due("15 eight", x.letters(Canals.word("T:12?l<3")), 10);
         for (int i = 0; i < 6; i++) {
-            x.letters(word("aaaaaaaa"));
+            x.letters(Canals.word("aaaaaaaa"));
         }
         due("15 58", x.count(10), 58);
-        due("15 outside first", x.letters(word("aa\u007f")), OUTSIDE);
-        due("15 above 60", x.letters(word("aaa")), FULL);
-        due("15 to 60", x.letters(word("aa")), 60);
+        due("15 outside first", x.letters(Canals.word("aa\u007f")), OUTSIDE);
+        due("15 above 60", x.letters(Canals.word("aaa")), FULL);
+        due("15 to 60", x.letters(Canals.word("aa")), 60);
         due("15 61", x.letters(1), FULL);
         due("15 none more", x.letters(0), 60);
     }
@@ -66,14 +46,14 @@ public final class TextsTest {
     private static void blank() {
         CanalCompany x = new CanalCompany();
         due("16 none", x.blank(), 0);
-        write(x, "T:12");
+        Canals.write(x, "T:12");
         due("16 four", x.blank(), 4);
         due("16 empty", x.count(10), 0);
     }
 
     private static void faultAt(String s, int want, boolean isText) {
         CanalCompany x = new CanalCompany();
-        write(x, s);
+        Canals.write(x, s);
         due("17 " + s, x.fault(), want);
         due("18 " + s, x.text(), isText ? 0 : STATE);
         due("18 the page then " + s, x.count(10), isText ? 0 : s.length());
@@ -134,7 +114,7 @@ public final class TextsTest {
         for (String[] row : fits) {
             for (char letter = 1; letter <= 126; letter++) {
                 CanalCompany x = new CanalCompany();
-                write(x, row[0]);
+                Canals.write(x, row[0]);
                 x.letters(letter);
                 int at = row[0].length();
                 due("17 " + row[0] + letter, x.fault(), row[1].indexOf(letter) >= 0 ? at + 1 : at);
@@ -146,12 +126,12 @@ public final class TextsTest {
         CanalCompany x = new CanalCompany();
         due("18 none", x.text(), STATE);
         for (int i = 0; i < 16; i++) {
-            due("18 number", tell(x, "T:" + i), i);
+            due("18 number", Canals.tell(x, "T:" + i), i);
         }
-        write(x, "T:1");
+        Canals.write(x, "T:1");
         due("18 full", x.text(), FULL);
         due("18 the page stays", x.count(10), 3);
-        write(x, "x");
+        Canals.write(x, "x");
         due("18 state before full", x.text(), STATE);
         due("45 texts", x.count(4), 16);
         due("19 the sixteenth", x.force(15, 0, 0), 1);
@@ -160,7 +140,7 @@ public final class TextsTest {
 
     private static void force() {
         CanalCompany x = new CanalCompany();
-        tell(x, "T:7");
+        Canals.tell(x, "T:7");
         x.boat(0, 1, 1, 1, 0, 0);
         due("19 all at first", x.speaks(0, 0, 0), 0);
         due("19 all at first", x.speaks(0, 0, 99), 0);
@@ -184,7 +164,7 @@ public final class TextsTest {
     private static void holds(String condition, boolean so) {
         CanalCompany x = new CanalCompany();
         x.boat(6, 1, 20, 1, 1, 2);
-        due("18 " + condition, tell(x, "T:5?" + condition), 0);
+        due("18 " + condition, Canals.tell(x, "T:5?" + condition), 0);
         due("20 " + condition, x.speaks(0, 0, 40), so ? 0 : NONE);
     }
 
@@ -233,11 +213,11 @@ public final class TextsTest {
         x.boat(0, 3, 20, 1, 1, 0);
         due("20 none", x.speaks(0, 0, 0), NONE);
         due("21 none", x.quarrel(0, 0, 0), 0);
-        tell(x, "T:3");
-        tell(x, "C:900");
-        tell(x, "T:4?l>10");
-        tell(x, "T:003?g=1");
-        tell(x, "T:4?l>30");
+        Canals.tell(x, "T:3");
+        Canals.tell(x, "C:900");
+        Canals.tell(x, "T:4?l>10");
+        Canals.tell(x, "T:003?g=1");
+        Canals.tell(x, "T:4?l>30");
         due("20 the last that holds", x.speaks(0, 0, 0), 3);
         due("20 credit", x.speaks(1, 0, 0), 1);
         due("21 of another number", x.quarrel(0, 0, 0), 1);
@@ -263,7 +243,7 @@ public final class TextsTest {
         CanalCompany x = new CanalCompany();
         x.boat(0, 7, 40, 1, 0, 0);
         due("22 without", x.toll(0, 0), 0);
-        tell(x, "T:9999?d<50");
+        Canals.tell(x, "T:9999?d<50");
         due("22 most", x.toll(0, 0), 9999 * 40 * 40);
         due("22 day", x.toll(0, 50), 0);
         due("22 unknown first", x.toll(1, 100), UNKNOWN);

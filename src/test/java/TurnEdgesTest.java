@@ -196,6 +196,9 @@ public final class TurnEdgesTest {
         // COMER 2 could pass first, but the last is through in hour 9 all the same.
         best(comers("u 2 99", "u 2 99", "u 0 99", "u 9 99"), 4, 9, 0, 1, 2, 3);
         best(comers("u 2 99", "u 2 99", "u 0 2", "u 9 99"), 4, 9, 2, 0, 1, 3);
+        // COMER 0 would be in time everywhere, but not those behind it.
+        best(comers("u 0 99", "u 0 1", "u 0 0"), 3, 2, 2, 1, 0);
+        best(comers("u 0 99", "u 0 2", "u 0 0"), 3, 2, 2, 0, 1);
         best(comers("d 0 99", "d 0 99", "d 0 99"), 3, 2, 0, 1, 2);
         best(comers("d 0 99", "u 0 99", "d 0 99", "u 0 99"), 2, 3, 1, 0, 3, 2);
         best(comers("d 0 99", "u 0 99", "d 0 99"), 2, 2, 0, 1, 2);

@@ -45,6 +45,7 @@ public final class ModelTest {
                 break;
             }
         }
+        linesAlone();
         turnsAlone();
         CHECK.end();
     }
@@ -200,13 +201,76 @@ public final class ModelTest {
         return "lmgcd".charAt(name) + "" + "<=>".charAt(random.nextInt(3)) + random.nextInt(mosts[name]);
     }
 
+    /**
+     * Whole canals until all HOURS have gone by: in the mixed runs POUNDS are told so often that few BOATS
+     * come far, and the LOCKS seldom meet BOATS from both sides.
+     */
+    private static void linesAlone() {
+        int went = 0;
+        int waited = 0;
+        for (int seed = 0; seed < 400; seed++) {
+            ModelTest run = new ModelTest(seed);
+            run.setUpLine();
+            for (int left = 600; left > 0; ) {
+                int n = Math.min(left, 1 + run.random.nextInt(25));
+                int rain = run.random.nextInt(3) == 0 ? run.random.nextInt(51) : run.random.nextInt(4);
+                int many = run.own.hours(n, rain);
+                CHECK.due("line " + seed + " hours", many, run.model.hours(n, rain));
+                run.tellBoat();
+                CHECK.due("line " + seed + " digest", run.own.digest(), run.model.digest());
+                went += many;
+                left -= n;
+            }
+            for (int i = 0; i < run.own.count(2); i++) {
+                waited += run.own.at(i, 3);
+            }
+        }
+        CHECK.holds("BOATS went through LOCKS " + went + " times and waited " + waited + " HOURS",
+                went > 10000 && waited > 10000);
+    }
+
+    private void setUpLine() {
+        int top = 1 + random.nextInt(6);
+        CHECK.due("summit", own.summit(top), model.summit(top));
+        for (int i = 0; i < 8; i++) {
+            int least = random.nextInt(700);
+            CHECK.due("pound", own.pound(i, 2, least), model.pound(i, 2, least));
+            int full = 1000 + random.nextInt(2) * random.nextInt(2000);
+            CHECK.due("pound", own.pound(i, 1, full), model.pound(i, 1, full));
+        }
+        for (int i = 0; i < 7; i++) {
+            int[] told = {10 + random.nextInt(191), random.nextInt(2), random.nextInt(3)};
+            for (int what = 0; what < 3; what++) {
+                CHECK.due("lock", own.lock(i, what, told[what]), model.lock(i, what, told[what]));
+            }
+        }
+        for (int i = random.nextInt(13); i > 0; i--) {
+            int sort = random.nextInt(5);
+            int pound = random.nextInt(8);
+            int amount = 1 + random.nextInt(sort < 2 ? 12 : 40);
+            int rank = random.nextInt(10);
+            CHECK.due("taker", own.taker(sort, pound, amount, rank), model.taker(sort, pound, amount, rank));
+        }
+        for (int i = random.nextInt(9); i > 0; i--) {
+            tellBoat();
+        }
+    }
+
+    private void tellBoat() {
+        int from = random.nextInt(8);
+        int to = random.nextInt(8);
+        int load = random.nextInt(41);
+        int pace = 1 + random.nextInt(1 + random.nextInt(9));
+        CHECK.due("boat", own.boat(from, to, load, pace, 0, 0), model.boat(from, to, load, pace, 0, 0));
+    }
+
     /** THE BEST for many sets of COMERS, tight and loose ones. */
     private static void turnsAlone() {
         Random random = new Random(7);
         for (int i = 0; i < 1500; i++) {
             CanalCompany own = new CanalCompany();
             Model model = new Model();
-            int many = i % 50 == 0 ? 7 : random.nextInt(7);
+            int many = i % 50 == 0 ? 7 + i / 50 % 2 : random.nextInt(7);
             int span = 1 + random.nextInt(12);
             int slack = 1 + random.nextInt(14);
             for (int c = 0; c < many; c++) {
